@@ -96,6 +96,14 @@ public final class PartsTest {
         Due.text(x, "say 0-1");
         int[] low = {0, 7, 0, 4, 0, 1};
         for (int k = 0; k < 6; k++) Due.due("says below 0, kind " + k, x.told(k, 5), low[k]);
+        x.set(4, 1, 99);
+        Due.text(x, "say g");
+        Due.due("says, sorted, cut", x.told(4, 5), 148);
+        x.set(4, 1, 98);
+        x.ahead(3, 4, 1);
+        Due.due("ends, right behind a change", x.told(4, 9), 18 + 147);
+        x.set(4, 1, 97);
+        Due.due("begins, right behind a change", x.told(4, 8), 18);
         int[] cards = {1, 1, 2, 3, 5, 5, 8, 8, 8, 13};
         ElevenParts y = new ElevenParts();
         y.part(5, 0, 0, 0);
@@ -165,7 +173,7 @@ public final class PartsTest {
         Due.due("book, one more", x.book(2, 9999, 0), 20);
         Due.due("book, the first went", x.line(0, 1), 2);
         Due.due("book, the last came", x.line(19, 0) * 10000 + x.line(19, 1) + x.line(19, 2), 29999);
-        Due.due("book, the one ahead of it", x.line(18, 1), 20);
+        Due.due("book, the one ahead of it", x.line(18, 0) * 100000000L + x.line(18, 1) * 10000 + x.line(18, 2), 200209999);
     }
 
     private static void line() { // promise 9
@@ -175,7 +183,7 @@ public final class PartsTest {
         Due.due("line sort", x.line(0, 0), 2);
         Due.due("line said", x.line(0, 1), 30);
         Due.due("line was", x.line(0, 2), 40);
-        Due.dueAll("line, none", Due.NONE, x.line(1, 0), x.line(-1, 2), x.line(Due.LEAST, 0), x.line(Due.MOST, 1), x.line(20, 0));
+        Due.dueAll("line, none", Due.NONE, x.line(1, 0), x.line(-1, 2), x.line(Due.LEAST, 0), x.line(Due.MOST, 1), x.line(20, 0), x.line(7, 1), x.line(19, 2));
         Due.dueAll("line, wrong", Due.BAD, x.line(0, -1), x.line(0, 3), x.line(9, 3));
     }
 

@@ -71,6 +71,7 @@ public final class SheetsTest {
         for (int i = 0; i < 5; i++) Due.due("pour, guess " + i, x.told(i, 1), due[i]);
         Due.due("pour again", x.pour(0), 0);
         x.sheet(1, 0, 24);
+        x.mark(1, 5, 7);
         Due.due("pour, more places than parts", x.pour(1), 4);
         x.sheet(1, 0, 0);
         Due.due("pour, no places", x.pour(1), 0);
@@ -97,6 +98,8 @@ public final class SheetsTest {
         tableIs("one", x, 0, 0, 0, 4);
         row(x, 0, 0, 8, 3, 8, 3);
         tableIs("the first of several", x, 1, 0, 4, 3);
+        row(x, 0, 0, 1, 7, 4);
+        tableIs("the first is the least", x, 0, 1, 1, 4);
         row(x, 0, 0, 9, 7, 8);
         tableIs("the middle of three", x, 1, 0, 1, 8);
         row(x, 0, 0, 9, 7, 8, 6);

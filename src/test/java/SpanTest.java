@@ -27,6 +27,8 @@ public final class SpanTest {
         x.ahead(0, 1, 1);
         Due.text(x, "wait 50");
         Due.due("together", x.together(), 3 + 5 + 99);
+        Due.text(x, "say 4");
+        Due.due("together, by a text", x.together(), 4 + 5 + 4);
     }
 
     private static void end() { // promise 14
@@ -57,6 +59,17 @@ public final class SpanTest {
         Due.due("critical, all", x.critical(), 0b11111);
         Due.text(x, "wait n*(n<2)");
         Due.due("critical, with waits", x.critical(), 0b01011);
+        x = withGuesses(3, 4, 5);
+        x.keep();
+        x.part(0, 9, 0, 0);
+        x.ahead(0, 3, 1);
+        x.ahead(2, 3, 1);
+        Due.due("critical, 2 and 3", x.critical(), 0b1100);
+        x.back();
+        Due.due("critical, 2 alone", x.critical(), 0b100);
+        Due.due("critical, the slack of 0", x.told(0, 10), 2);
+        x.set(0, 1, 5);
+        Due.due("critical, 0 and 2", x.critical(), 0b101);
     }
 
     private static void staffed() { // promise 16
@@ -79,6 +92,13 @@ public final class SpanTest {
         x.ahead(0, 1, 1);
         Due.due("staffed, the least that may be begun", x.staffed(1), 11);
         Due.due("staffed, 2 is begun ahead of 1", x.staffed(2), 8);
+        x = withGuesses(5, 1, 1, 5);
+        Due.due("staffed, who is busy is not free", x.staffed(2), 7);
+        x = withGuesses(1, 1, 1);
+        x.ahead(0, 1, 1);
+        x.ahead(0, 2, 1);
+        Due.text(x, "say 5");
+        Due.due("staffed, parts alone are begun", x.staffed(2), 10);
         x = withGuesses(99, 99, 99, 99, 99, 99, 99, 99, 99, 99);
         Due.text(x, "say 999");
         Due.due("staffed, as long as it can be", x.staffed(1), 9990);
@@ -94,6 +114,7 @@ public final class SpanTest {
         Due.due("more, week 3: 0 is over, nobody begins", x.more(1, 1, 3), 3 + 3 + 4 + 2);
         Due.due("more, who is at work goes on: 1 is over in 7", x.more(1, 1, 4), 12);
         Due.due("more, week 999", x.more(1, 1, 999), 14);
+        Due.due("more, the most of all", x.more(9, 9, 0), 8);
         Due.dueAll("more, wrong", Due.BAD, x.more(0, 0, 0), x.more(10, 0, 0), x.more(1, -1, 0), x.more(1, 10, 0), x.more(1, 0, -1), x.more(1, 0, 1000));
         x = withGuesses(0, 0);
         x.ahead(0, 1, 1);
@@ -143,6 +164,12 @@ public final class SpanTest {
         oddsAre("odds, the latest", x, 2980, 1, 1);
         x.set(0, 2, 10);
         oddsAre("odds, one is always long", x, 2080, 40353607L, 1000000000L);
+        x = new ElevenParts();
+        x.part(0, 1, 1, 0);
+        oddsAre("odds, a tail of 1", x, 2, 9, 10);
+        oddsAre("odds, a tail of 1, all", x, 3, 1, 1);
+        x.set(0, 2, 9);
+        oddsAre("odds, a tail of 9", x, 1, 1, 10);
     }
 
     private static void span() { // promise 19
@@ -160,6 +187,14 @@ public final class SpanTest {
         Due.text(x, "wait 99");
         Due.due("span, as long as it can be", x.span(100), 2980);
         Due.due("span, nine of them long", x.span(34), 2880);
+        x = new ElevenParts();
+        for (int i = 0; i < 3; i++) x.part(0, 1, 1, 0);
+        x.ahead(0, 1, 1);
+        x.ahead(1, 2, 1);
+        Due.due("span of 100, 999 of 1000 are not enough", x.span(100), 9);
+        Due.due("span of 99", x.span(99), 7);
+        Due.due("span of 72", x.span(72), 3);
+        Due.due("span of 73", x.span(73), 5);
     }
 
     private static void mean() { // promise 20
@@ -239,6 +274,7 @@ public final class SpanTest {
     private static void fine() { // promise 22
         ElevenParts x = withGuesses(30);
         Due.due("fine", x.fine(20), 10);
+        Due.due("fine of week 0", x.fine(0), 30);
         Due.due("fine of its week", x.fine(30), 0);
         Due.due("fine, 0 at least", x.fine(9999), 0);
         Due.dueAll("fine, wrong", Due.BAD, x.fine(-1), x.fine(10000), x.fine(Due.LEAST));

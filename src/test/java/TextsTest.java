@@ -50,6 +50,18 @@ public final class TextsTest {
         Due.due("text, a fault stands ahead of full", Due.text(x, "say n"), -104);
         Due.due("text, the tape is used up by a fault", x.count(5), 0);
         Due.due("text, fourteen", x.count(3), 14);
+        x = new ElevenParts();
+        Due.due("text, ends at a word", Due.text(x, "say n"), -104);
+        Due.due("text, a fault is forgotten", Due.text(x, "say g"), 0);
+        Due.due("text, a blank", Due.text(x, " "), -101);
+        Due.due("text, then nothing", x.text(), -100);
+        Due.due("text, a longer one", Due.text(x, "say g+t+f"), 1);
+        Due.due("text, a shorter one, nothing is left", Due.text(x, "say g+"), -106);
+        StringBuilder longest = new StringBuilder("say g");
+        while (longest.length() < 95) longest.append("+t");
+        Due.due("text of 95 bytes", Due.text(x, longest.toString()), 2);
+        Due.due("text of 95 bytes, its names", x.textTold(2, 1), 46);
+        Due.due("text of 96 bytes", Due.text(x, longest + "+"), -196);
     }
 
     private static void fault(String text, int place) {
@@ -73,6 +85,19 @@ public final class TextsTest {
         fault(" sayg", 1);
         fault("says g", 0);
         fault("Say g", 0);
+        fault("sayz g", 0);
+        fault("saya g", 0);
+        fault("aay g", 0);
+        fault("sby g", 0);
+        fault("bait n", 0);
+        fault("waits n", 0);
+        fault("mine e", 0);
+        fault("fin e", 0);
+        fault("say zg", 4);
+        fault("say gz", 4);
+        fault("say0", 3);
+        fault("wait9", 4);
+        fault("say 9g", 5);
         fault("say", 3);
         fault("say  ", 5);
         fault("say5", 3); // a word right behind another one
@@ -166,6 +191,8 @@ public final class TextsTest {
         value("!0", 1);
         value("!!e", 1);
         value("!0+1", 2);
+        value("1+!0", 2);
+        value("3-!!e*2", 1);
         value("!e=0", 1);
         value("!(e=0)", 1);
         value("e&d", 1);
@@ -216,6 +243,7 @@ public final class TextsTest {
         Due.dueAll("why, wrong", Due.BAD, x.why(-1), x.why(3), x.why(Due.LEAST));
         x.part(0, 1, 0, 0);
         Due.text(x, "say 5");
+        Due.due("why, the first", x.why(0), 0);
         Due.text(x, "wait 6");
         Due.text(x, "say 7");
         Due.text(x, "say 8 8");
