@@ -542,7 +542,7 @@ public final class ElevenParts {
     }
 
     private static int held(int v, int least, int most) {
-        return Math.max(least, Math.min(most, v));
+        return v < least ? least : v > most ? most : v;
     }
 
     private static boolean isKind(int kind) {

