@@ -47,6 +47,7 @@ final class BoundsOfSpans {
             part 0 3 0 0 = 0; told 0 10 = 0; part 0 4 0 0 = 1; told 0 10 = 1; told 1 10 = 0; ahead 0 1 1 = 0; told 0 10 = 0; told 1 10 = 0
             part 0 10 0 0 = 2; told 0 10 = 3; told 1 10 = 3; told 2 10 = 0; part 0 0 0 0 = 3; told 3 10 = 10; ahead 1 3 1 = 0; told 3 10 = 3; told 0 10 = 3
             ahead 0 2 1 = 0; told 0 10 = 0; told 1 10 = 6
+            new; part 0 5 0 0 = 0; keep = 1; part 0 9 0 0 = 1; ahead 0 1 1 = 0; told 0 10 = 0; told 1 10 = 0; critical = 3; back = 1; told 0 10 = 0; critical = 1; part 0 6 0 0 = 1; told 0 10 = 1; critical = 2    # what is no more is not counted
             new; part 0 1 0 0 = 0; part 0 5 0 0 = 1; part 0 2 0 0 = 2; ahead 0 1 1 = 0; ahead 0 2 1 = 0; told 0 10 = 0; told 2 10 = 3   # the longest way behind it
             text "wait 2*n" = 0; told 2 10 = 3; told 0 10 = 0; text "wait 4*(g=2)" = 1; told 2 10 = 0; told 1 10 = 1; told 0 10 = 0
             new; 9 * part 0 99 0 0; part 0 0 0 0 = 9; ahead 0 1 1; ahead 1 2 1; ahead 2 3 1; ahead 3 4 1; ahead 4 5 1; ahead 5 6 1; ahead 6 7 1; ahead 7 8 1

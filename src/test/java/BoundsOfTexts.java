@@ -55,7 +55,8 @@ final class BoundsOfTexts {
             text "fine !d+5" = 13; fine 0 = 6
             new; text "fine !" fault 6; text "fine (" fault 6; text "fine ()" fault 6; text "fine )" fault 5; text "fine (d" fault 7; text "fine d)" fault 6; text "fine (d))" fault 8; text "fine (d d)" fault 8; text "fine !)" fault 6; text "fine d(d)" fault 6
             text "fine d!" fault 6; text "fine (d)(d)" fault 8; text "fine (d)d" fault 8; text "fine (d)1" fault 8; text "fine !+d" fault 6; text "fine !d!" fault 7; text "fine d !d" fault 7; text "fine (+d)" fault 6; text "fine (d+)" fault 8
-            text "fine (d=1)=1" = 0; text "fine !(d=1)=1" = 1; text "fine (d=1=1)" fault 9; text "fine 3*!0" = 2; fine 0 = 3; text "fine !0*3" = 3; fine 0 = 3
+            text "fine (1|0)&0" = 0; fine 0 = 0; text "fine 2*(0&1|5<6)" = 1; fine 0 = 2
+            text "fine (d=1)=1" = 2; text "fine !(d=1)=1" = 3; text "fine (d=1=1)" fault 9; text "fine 3*!0" = 4; fine 0 = 3; text "fine !0*3" = 5; fine 0 = 3
             """);
     }
 
@@ -134,7 +135,7 @@ final class BoundsOfTexts {
             text "say (!g)+!!!!!!!!t" = 12
             """);
         s.holds("terms 4", "the end (the place behind the last byte), if it comes too soon.", """
-            text ! -100; text "" fault 0; text " " fault 1; text "say" fault 3; text "say " fault 4; text "say   " fault 6; text "say g+" fault 6; text "say g+  " fault 8; text "say !" fault 5; text "say (" fault 5; text "say (g" fault 6; text "say (g  " fault 8
+            text ! -100; text "" fault 0; text " " fault 1; text ! -100; text "" fault 0; text "say" fault 3; text "say " fault 4; text "say   " fault 6; text "say g+" fault 6; text "say g+  " fault 8; text "say !" fault 5; text "say (" fault 5; text "say (g" fault 6; text "say (g  " fault 8
             text "say ((g)" fault 8; text "sa" fault 0; text "say g" = 0; text "say (g)" = 1; feed 0x73617920 0x28672020 0x20202020; text ! -112
             8 * feed 0x20202020 0x20202020 0x20202020; text ! -196; 8 * feed 0x20202020 0x20202020 0x20202020; trim 95 = 95; text ! -195
             """);
