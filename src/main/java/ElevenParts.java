@@ -1236,26 +1236,26 @@ public final class ElevenParts {
             for (int k = 0; k < plan.size; k++) {
                 waits[k] = waitsOf(plan, plan.parts[k]);
             }
-            spread(plan, 0, 0, 1L);
+            spread(this, plan, 0, 0, 1L);
         }
 
         /** Each way for the PARTS from k on, with the latest ENDS and the weight of those ahead. */
-        private void spread(Plan plan, int k, int latest, long weight) {
+        private static void spread(Reckoner rows, Plan plan, int k, int latest, long weight) {
             if (k >= plan.size) {
                 if (latest >= 0 && latest <= LATEST) {
-                    chances[latest] += weight;
+                    rows.chances[latest] += weight;
                 }
                 return;
             }
             Part p = plan.parts[k];
-            int begin = beginOf(plan, k);
+            int begin = rows.beginOf(plan, k);
             if (p.tail < TAIL_MOST) {
-                ends[k] = begin + p.lengthShort();
-                spread(plan, k + 1, Math.max(latest, ends[k]), weight * (TAIL_MOST - p.tail));
+                rows.ends[k] = begin + p.lengthShort();
+                spread(rows, plan, k + 1, Math.max(latest, rows.ends[k]), weight * (TAIL_MOST - p.tail));
             }
             if (p.tail > 0) {
-                ends[k] = begin + p.lengthLong();
-                spread(plan, k + 1, Math.max(latest, ends[k]), weight * p.tail);
+                rows.ends[k] = begin + p.lengthLong();
+                spread(rows, plan, k + 1, Math.max(latest, rows.ends[k]), weight * p.tail);
             }
         }
 
